@@ -390,7 +390,7 @@ public final class CurveRooms {
 
     /** Numbers by P and the arithmetic of rows of them. */
     private static final class Rows {
-        private int p;
+        private int p = FIRST_PRIME;
         private final int[] inverses = new int[GREATEST_PRIME];
         private final Row quotient = new Row();
         private final Row part = new Row();
@@ -404,7 +404,9 @@ public final class CurveRooms {
             takePrime(FIRST_PRIME);
         }
 
+        /** P divides everywhere, so nothing below 3 may ever get into it. */
         void takePrime(int prime) {
+            if (prime < 3 || prime > GREATEST_PRIME) return;
             p = prime;
             for (int v = 1; v < p && v < GREATEST_PRIME; v++) {
                 for (int w = 1; w < p; w++) {
@@ -553,9 +555,15 @@ public final class CurveRooms {
             int all = Math.min(rows.p * rows.p, wideRoots.length);
             findNonSquare();
             Arrays.fill(wideRoots, 0);
-            for (int y = 0; y < all; y++) wideRoots[wideTimes(y, y)]++;
+            for (int y = 0; y < all; y++) {
+                int square = wideTimes(y, y);
+                if (square >= 0 && square < all) wideRoots[square]++;
+            }
             countedWide = 1;
-            for (int x = 0; x < all; x++) countedWide += wideRoots[wideValue(x)];
+            for (int x = 0; x < all; x++) {
+                int square = wideValue(x);
+                if (square >= 0 && square < all) countedWide += wideRoots[square];
+            }
         }
 
         private void findNonSquare() {
@@ -886,7 +894,7 @@ public final class CurveRooms {
 
         int find(Pair pair) {
             int token = tokenOf(pair);
-            int low = 0, high = many - 1;
+            int low = 0, high = Math.min(many, MOST) - 1;
             for (int step = 0; step < 32 && low < high; step++) {
                 int middle = (low + high) / 2;
                 if (tokens[middle] < token) low = middle + 1;
@@ -964,7 +972,10 @@ public final class CurveRooms {
             }
             path[n] = 0;
             n++;
-            for (int k = 1; k <= n; k++) orders[path[k - 1]] = n / greatestPart(n, k);
+            for (int k = 1; k <= n; k++) {
+                int at = path[k - 1];
+                if (at >= 0 && at < orders.length) orders[at] = n / greatestPart(n, k);
+            }
         }
 
         /** q to so many as classes that a power of q brings to nought tell how many numbers have that power in them. */
@@ -1153,7 +1164,9 @@ public final class CurveRooms {
             int[] row = cleared[left];
             for (int j = 0; j < length; j++) row[j] = words[left][j];
             for (int i = 0; i < left; i++) {
-                int k = rows.p - row[pivots[i]];
+                int pivot = pivots[i];
+                if (pivot < 0 || pivot >= length) continue;
+                int k = rows.p - row[pivot];
                 for (int j = 0; j < length; j++) row[j] = (row[j] + k * cleared[i][j]) % rows.p;
             }
         }
@@ -1206,7 +1219,10 @@ public final class CurveRooms {
 
         private int mostOften() {
             Arrays.fill(tally, 0);
-            for (int j = 0; j < length; j++) tally[apart[j]]++;
+            for (int j = 0; j < length; j++) {
+                int v = apart[j];
+                if (v >= 0 && v < GREATEST_PRIME) tally[v]++;
+            }
             int often = 0;
             for (int v = 1; v < rows.p; v++) {
                 if (tally[v] > tally[often]) often = v;
