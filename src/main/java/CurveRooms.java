@@ -770,8 +770,10 @@ public final class CurveRooms {
             base.copy(a);
             if (n < 0) turnAbout(base);
             int many = Math.abs(n);
+            int top = 0;
+            while (top < 30 && many >> top > 1) top++;
             out.makeNought();
-            for (int bit = 31 - Integer.numberOfLeadingZeros(many); bit >= 0; bit--) {
+            for (int bit = top; bit >= 0; bit--) {
                 add(out, out, out);
                 if ((many >> bit & 1) == 1) add(out, out, base);
             }
