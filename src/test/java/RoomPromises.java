@@ -89,6 +89,43 @@ public final class RoomPromises {
         }
     }
 
+    /** By genus 1 a line through two points has one more: only with that one is there a function of total 0. */
+    private static void lines(int p, int... row) {
+        CurveRooms x = Check.onCurve(p, row);
+        for (int i = 1; i < x.points(); i++) {
+            for (int j = i + 1; j < x.points(); j++) {
+                int third = x.point(thirdOnLine(x, i, j, p, row[2]), 2);
+                for (int k = 1; k < x.points(); k++) {
+                    if (k == i || k == j) continue;
+                    x.amount(i, 1);
+                    x.amount(j, 1);
+                    x.amount(k, -1);
+                    x.amount(0, -1);
+                    Check.due("width by " + i + " " + j + " " + k, x.room(0), k == third ? 1 : 0);
+                    Check.due("turned about", x.room(2), k == third ? 1 : 0);
+                    x.amount(k, 0);
+                }
+                x.amount(0, -2);
+                Check.due("width by " + i + " " + j, x.room(0), third == 0 ? 1 : 0);
+                x.amount(i, 0);
+                x.amount(j, 0);
+            }
+        }
+    }
+
+    private static int thirdOnLine(CurveRooms x, int i, int j, int p, int square) {
+        int x1 = x.point(i, 0), y1 = x.point(i, 1), x2 = x.point(j, 0), y2 = x.point(j, 1);
+        if (x1 == x2) return 0;
+        int slope = 0;
+        while ((slope * (x2 - x1) - (y2 - y1)) % p != 0) slope++;
+        int x3 = Math.floorMod(slope * slope - square - x1 - x2, p);
+        int y3 = Math.floorMod(y1 + slope * (x3 - x1), p);
+        for (int k = 1; k < x.points(); k++) {
+            if (x.point(k, 0) == x3 && x.point(k, 1) == y3) return k;
+        }
+        return Check.BAD;
+    }
+
     private static void gapsOf(int p, int... row) {
         CurveRooms x = Check.onCurve(p, row);
         boolean wide = row.length == 6;
@@ -109,6 +146,10 @@ public final class RoomPromises {
         turnedAbout(5, 0, 4, 0, 0, 0, 1);
         turnedAbout(13, 0, 1, 0, 0, 0, 1);
         turnedAbout(11, 1, 2, 3, 4, 5, 1);
+        lines(7, 1, 1, 0, 1);
+        lines(3, 1, 2, 0, 1);
+        lines(11, 3, 0, 1, 1);
+        lines(13, 4, 0, 0, 1);
         gapsOf(7, 1, 1, 0, 1);
         gapsOf(3, 0, 2, 0, 1);
         gapsOf(3, 1, 2, 0, 0, 0, 1);

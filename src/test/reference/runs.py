@@ -39,6 +39,15 @@ class Maker:
             self.call('push', v)
         self.call('curve')
 
+    def balance(self):
+        """Totals near 0, where a width hangs on the class of the amounts and not on the total alone."""
+        r = self.random
+        for _ in range(r.randint(0, 2)):
+            self.call('amount', r.randrange(len(self.x.c.points)), r.randint(-4, 4))
+        rest = self.x.amounts[0] - sum(self.x.amounts)
+        self.call('amount', 0, max(-30, min(30, rest + r.randint(0, 2))))
+        self.call('room', r.choice([0, 2]))
+
     def choices(self):
         p, c, n = self.x.p, self.x.c, self.number
         last = len(c.points) - 1 if c else 26
@@ -69,6 +78,8 @@ class Maker:
                 self.call('prime', r.choice(PRIMES + (4, 9, 17, -3)))
             elif kind < 0.04 or self.x.c is None and r.random() < 0.5:
                 self.set_curve()
+            elif kind < 0.1 and self.x.c:
+                self.balance()
             else:
                 self.call(*r.choice(self.choices()))
         self.call('digest')
