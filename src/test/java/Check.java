@@ -19,6 +19,10 @@ final class Check {
         due(what, so ? 1 : 0, 1);
     }
 
+    static int wrongMany() {
+        return wrong;
+    }
+
     static CurveRooms onPrime(int p) {
         CurveRooms x = new CurveRooms();
         due("prime(" + p + ")", x.prime(p), 1);
