@@ -1,3 +1,4 @@
+import java.util.Arrays;
 import java.util.List;
 
 /** Terms 2, promises 12 to 20: the sentences about classes, their sums, orders and their group, one test each. */
@@ -37,7 +38,7 @@ public final class ClassEdges {
     private static int[] trimmed(int[] row) {
         int many = row.length;
         while (many > 0 && row[many - 1] == 0) many--;
-        return java.util.Arrays.copyOf(row, many);
+        return Arrays.copyOf(row, many);
     }
 
     /** Registers that hold other classes each, none of them nought. */
@@ -273,7 +274,7 @@ public final class ClassEdges {
         Edges.holdsPair("(2, 3) + (3, 2) + (2, 3) + (3, 5)", x, 4, new int[] {4, 3, 1}, new int[] {4, 3});
     }
 
-    @Sentence(promise = 14, says = "by u what is left; then as long as u's DEGREE is above g: u becomes (f less v v) by u with 1 highest, v less v by that u what is left.")
+    @Sentence(promise = 14, says = "then as long as u's DEGREE is above g: u becomes (f less v v) by u with 1 highest, v less v by that u what is left.")
     static void p14AboveTheGenus() {
         CurveRooms x = Edges.genus1();
         // the line through (0, 1) and (2, 2) is at (0, 1) once more

@@ -494,6 +494,36 @@ public final class CurveEdges {
         }
     }
 
+    /** The numbers' k-th powers together are what stands on the slant of the k-th power of the square told by the row. */
+    @Sentence(promise = 7, says = "Then -S(k) are the sums of k-th powers of the numbers 1 by which the ROW a(0), a(1), .. is taken apart:")
+    static void p07SumsOfPowers() {
+        for (int[] told : Edges.CURVES) {
+            CurveRooms x = Edges.made(told);
+            int wide = told.length - 3;
+            long[][] square = new long[wide][wide], power = square;
+            for (int i = 0; i < wide; i++) {
+                square[0][i] = -x.share(i + 1);
+                if (i > 0) square[i][i - 1] = 1;
+            }
+            for (int k = 1; k <= 6; k++) {
+                long sum = 0;
+                for (int i = 0; i < wide; i++) sum += power[i][i];
+                Check.due("S(" + k + ")", x.count(k) - 1 - Plain.power(told[0], k), -sum);
+                power = together(power, square);
+            }
+        }
+    }
+
+    private static long[][] together(long[][] a, long[][] b) {
+        long[][] out = new long[a.length][a.length];
+        for (int i = 0; i < a.length; i++) {
+            for (int j = 0; j < a.length; j++) {
+                for (int k = 0; k < a.length; k++) out[i][j] += a[i][k] * b[k][j];
+            }
+        }
+        return out;
+    }
+
     @Sentence(promise = 7, says = "BAD; NO.")
     static void p07Wrong() {
         CurveRooms x = Edges.genus2();
@@ -567,6 +597,14 @@ public final class CurveEdges {
         }
     }
 
+    @Sentence(promise = 9, says = "a(i).")
+    static void p09EachByItsNumber() {
+        CurveRooms one = Edges.genus1(), two = Edges.genus2();
+        long[] ofOne = {1, -3, 7}, ofTwo = {1, 3, 7, 21, 49};
+        for (int i = 2; i >= 0; i--) Check.due("genus 1: a(" + i + ")", one.share(i), ofOne[i]);
+        for (int i = 4; i >= 0; i--) Check.due("genus 2: a(" + i + ")", two.share(i), ofTwo[i]);
+    }
+
     @Sentence(promise = 9, says = "NONE: beyond 2 g: -1000000000.")
     static void p09Beyond() {
         CurveRooms one = Edges.genus1(), two = Edges.genus2();
@@ -600,6 +638,16 @@ public final class CurveEdges {
     }
 
     // ---- promise 10
+
+    @Sentence(promise = 10, says = "h.")
+    static void p10OfTheCurveThatIs() {
+        CurveRooms x = Edges.genus1();
+        Check.due("h", x.classes(), 5);
+        Check.due("refused", Check.setCurve(x, 1), NO);
+        Check.due("h stays", x.classes(), 5);
+        Check.setCurve(x, 3, 1, 0, 0, 0, 1);
+        Check.due("another curve's", x.classes(), 81);
+    }
 
     @Sentence(promise = 10, says = "CLASS NUMBER h: all of a(0) .. a(2 g) together.")
     static void p10ClassNumber() {

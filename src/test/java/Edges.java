@@ -9,7 +9,7 @@ import java.util.stream.Collectors;
 /** Runs the tests that bear a Sentence, each by itself, and names the sentence that doesn't hold. */
 final class Edges {
     static final Class<?>[] ALL = {
-        CurveEdges.class, ClassEdges.class,
+        CurveEdges.class, ClassEdges.class, RoomEdges.class, CodeEdges.class, TurnEdges.class, RefusalEdges.class,
     };
 
     /** By 3 .. 13, of both degrees: f's prime first, with few points, with many, with y 0. */

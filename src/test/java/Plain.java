@@ -158,6 +158,34 @@ final class Plain {
         return true;
     }
 
+    static int inverse(int p, int v) {
+        int w = 1;
+        while (v * w % p != 1) w++;
+        return w;
+    }
+
+    /** How many of the rows, all as long, are no sums of the others. */
+    static int rank(int p, List<int[]> told) {
+        List<int[]> rows = new ArrayList<>();
+        for (int[] row : told) rows.add(row.clone());
+        int rank = 0, wide = rows.isEmpty() ? 0 : rows.get(0).length;
+        for (int column = 0; column < wide && rank < rows.size(); column++) {
+            int found = rank;
+            while (found < rows.size() && rows.get(found)[column] == 0) found++;
+            if (found == rows.size()) continue;
+            int[] pivot = rows.set(found, rows.get(rank));
+            rows.set(rank, pivot);
+            int inverse = inverse(p, pivot[column]);
+            rank++;
+            for (int i = rank; i < rows.size(); i++) {
+                int[] row = rows.get(i);
+                int k = row[column] * inverse % p;
+                for (int j = column; k > 0 && j < wide; j++) row[j] = Math.floorMod(row[j] - k * pivot[j], p);
+            }
+        }
+        return rank;
+    }
+
     static int part(int a, int b) {
         return b == 0 ? a : part(b, a % b);
     }
