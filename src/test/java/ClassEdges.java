@@ -186,6 +186,21 @@ public final class ClassEdges {
         }
     }
 
+    @Sentence(promise = 13, says = "A REGISTER becomes the i-th CLASS: 1.")
+    static void p13OverWhatItHeld() {
+        for (int[] told : Edges.CURVES) {
+            List<int[][]> all = classes(told);
+            for (int i = all.size() - 1; i >= 0; i -= 1 + all.size() / 40) {
+                CurveRooms x = Edges.made(told);
+                x.pick(0, all.size() - 1);
+                x.pick(0, i);
+                Edges.holdsPair("class " + i + " over the last", x, 0, all.get(i)[0], trimmed(all.get(i)[1]));
+                x.pick(0, 0);
+                Edges.holdsPair("nought over class " + i, x, 0, NOUGHT_U, NOUGHT_V);
+            }
+        }
+    }
+
     @Sentence(promise = 13, says = "BAD: no such one (without a CURVE: i below 0); NO.")
     static void p13NoSuchOne() {
         for (int[] told : Edges.CURVES) {
@@ -250,8 +265,10 @@ public final class ClassEdges {
     @Sentence(promise = 14, says = "with d the greatest part of u1, u2, v1 and v2 in common")
     static void p14AllInCommon() {
         for (int[] told : Edges.CURVES) {
-            CurveRooms x = Edges.made(told);
-            for (int i = 0; i < x.points(); i++) sumOfPoints("a point and the other", x, i, x.point(i, 2), NOUGHT_U, NOUGHT_V);
+            for (int i = 0; i < Plain.points(told[0], Edges.rowOf(told)).size(); i++) {
+                CurveRooms x = Edges.made(told);
+                sumOfPoints("a point and the other", x, i, x.point(i, 2), NOUGHT_U, NOUGHT_V);
+            }
         }
     }
 
@@ -820,6 +837,18 @@ public final class ClassEdges {
                 Check.due("group(" + i + ") of " + told[0][0], Edges.made(told[0]).group(i), told[1][i]);
             }
         }
+    }
+
+    @Sentence(promise = 20, says = "THE GROUP: its i-th number (from 0 on).")
+    static void p20AfterAnotherCurve() {
+        CurveRooms x = Check.onCurve(5, 0, 4, 0, 0, 0, 1);
+        for (int i = 0; i < 4; i++) Check.due("four rounds of 2", x.group(i), 2);
+        Check.due("and no more", x.group(4), NONE);
+        Check.setCurve(x, 1, 2, 1, 1, 3, 1);
+        Check.due("one round of 49", x.group(0), 49);
+        Check.due("and no more", x.group(1), NONE);
+        Check.due("refused", Check.setCurve(x, 1), NO);
+        Check.due("it stays", x.group(0), 49);
     }
 
     @Sentence(promise = 20, says = "NONE: not so many.")

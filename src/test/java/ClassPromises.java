@@ -5,12 +5,6 @@ public final class ClassPromises {
         {7, 1, 1, 0, 1}, {7, 3, 1, 0, 0, 0, 1}, {11, 3, 0, 1, 1}, {11, 1, 2, 3, 4, 5, 1}, {13, 0, 1, 0, 0, 0, 1},
     };
 
-    private static CurveRooms made(int[] told) {
-        int[] row = new int[told.length - 1];
-        System.arraycopy(told, 1, row, 0, row.length);
-        return Check.onCurve(told[0], row);
-    }
-
     private static void withoutCurve() {
         CurveRooms x = new CurveRooms();
         Check.due("at(5, 26)", x.at(5, 26), Check.NO);
@@ -92,23 +86,24 @@ public final class ClassPromises {
     }
 
     private static void listed(int[] told) {
-        CurveRooms x = made(told);
+        int h = (int) Edges.made(told).classes();
         long before = -1;
-        for (int i = 0; i < x.classes(); i++) {
+        for (int i = 0; i < h; i++) {
+            CurveRooms x = Edges.made(told);
             Check.due("pick", x.pick(1, i), 1);
             Check.due("which", x.which(1), i);
             long rank = rank(x, 1, told[0]);
             Check.holds("class " + i + " stands behind the one ahead", rank > before);
             before = rank;
         }
-        Check.due("pick(h)", x.pick(1, (int) x.classes()), Check.BAD);
+        Check.due("pick(h)", Edges.made(told).pick(1, h), Check.BAD);
     }
 
     private static void sums(int[] told) {
-        CurveRooms x = made(told);
-        int h = (int) x.classes();
+        int h = (int) Edges.made(told).classes();
         int step = Math.max(1, h / 12);
         for (int i = 0; i < h; i += step) {
+            CurveRooms x = Edges.made(told);
             for (int j = 0; j < h; j += step) {
                 x.pick(0, i);
                 x.pick(1, j);
@@ -131,15 +126,20 @@ public final class ClassPromises {
     }
 
     private static void rounds(int[] told) {
-        CurveRooms x = made(told);
-        int h = (int) x.classes();
+        int h = (int) Edges.made(told).classes();
         int step = Math.max(1, h / 20);
         for (int i = 0; i < h; i += step) {
+            CurveRooms x = Edges.made(told);
             x.pick(0, i);
             int order = x.order(0);
             int n = 0;
-            x.pick(1, 0);
             do {
+                // an object answers 512 calls
+                if (n % 50 == 0) {
+                    x = Edges.made(told);
+                    x.pick(0, i);
+                    x.times(1, 0, n);
+                }
                 Check.due("log", x.log(0, 1), n);
                 x.times(2, 0, n);
                 Check.due("times(" + n + ")", x.which(2), x.which(1));
@@ -160,8 +160,9 @@ public final class ClassPromises {
 
     /** The numbers d1, d2, .. with as many classes of each order as their sum of rounds has. */
     private static void groups(int[] told, int... numbers) {
-        CurveRooms x = made(told);
+        CurveRooms x = Edges.made(told);
         int h = (int) x.classes();
+        int[] orders = orders(told, h);
         int product = 1;
         for (int i = 0; i < numbers.length; i++) {
             Check.due("group(" + i + ")", x.group(i), numbers[i]);
@@ -173,17 +174,20 @@ public final class ClassPromises {
         for (int n = 1; n <= h; n++) {
             if (h % n != 0) continue;
             int want = 1, got = 0;
-            for (int d : numbers) want *= part(d, n);
-            for (int i = 0; i < h; i++) {
-                x.pick(0, i);
-                if (n % x.order(0) == 0) got++;
-            }
+            for (int d : numbers) want *= Plain.part(d, n);
+            for (int order : orders) got += n % order == 0 ? 1 : 0;
             Check.due("classes brought to nought by " + n, got, want);
         }
     }
 
-    private static int part(int a, int b) {
-        return b == 0 ? a : part(b, a % b);
+    private static int[] orders(int[] told, int h) {
+        int[] orders = new int[h];
+        for (int i = 0; i < h; i++) {
+            CurveRooms x = Edges.made(told);
+            x.pick(0, i);
+            orders[i] = x.order(0);
+        }
+        return orders;
     }
 
     private static void shortGroup() {

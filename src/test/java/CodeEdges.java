@@ -303,6 +303,11 @@ public final class CodeEdges {
         x.prime(5);
         Check.setCurve(x, 1, 1, 0, 1);
         near("all noughts again", x, 2, 0, 0, 0);
+        CurveRooms y = Check.onCurve(3, 1, 2, 0, 1);
+        tell(y, 1, 2);
+        near("1, 2 and noughts", y, 0, 2, 0);
+        Check.setCurve(y, 2, 2, 0, 1);
+        near("a curve without places", y, 0, 0);
     }
 
     @Sentence(promise = 27, says = "NONE: not so many functions.")

@@ -94,15 +94,14 @@ public final class CodePromises {
     }
 
     private static void mended(int p, int... row) {
-        CurveRooms x = Check.onCurve(p, row);
         int[] told = new int[26];
         for (int round = 0; round < 3; round++) {
-            for (int m = 0; m <= 12; m++) allWords(x, p, m, told);
-            for (int j = 0; j < 26; j++) {
-                int v = (j * j * (round + 2) + round + j / 3) % p;
-                Check.due("tell", x.tell(j, v), told[j]);
-                told[j] = v;
+            for (int m = 0; m <= 12; m++) {
+                CurveRooms x = Check.onCurve(p, row);
+                for (int j = 0; j < 26; j++) Check.due("tell", x.tell(j, told[j]), 0);
+                allWords(x, p, m, told);
             }
+            for (int j = 0; j < 26; j++) told[j] = (j * j * (round + 2) + round + j / 3) % p;
         }
     }
 

@@ -244,6 +244,19 @@ public final class CurveEdges {
         }
     }
 
+    /** A row is told anew each time: what longer ones ahead of it held is not in it. */
+    @Sentence(promise = 4, says = "THE ROW becomes f; it is empty then;")
+    static void p04LongRowsThenShort() {
+        for (int p : new int[] {3, 5, 7}) {
+            CurveRooms x = Check.onPrime(p);
+            for (int n = 1; n <= 35; n++) {
+                int[] wide = Check.row(p, 5, 31 * n), row = Check.row(p, 3, 5 * n);
+                Check.due("curve of " + n, Check.setCurve(x, wide), hasTwice(p, wide) ? NO : 2);
+                Check.due("curve of " + n, Check.setCurve(x, row), hasTwice(p, row) ? NO : 1);
+            }
+        }
+    }
+
     private static boolean hasTwice(int p, int[] row) {
         for (int d = 1; 2 * d < row.length; d++) {
             for (int n = 0; n < Plain.power(p, d); n++) {
@@ -300,6 +313,23 @@ public final class CurveEdges {
         Check.due("a curve with more", Check.setCurve(x, 0, 1, 0, 10, 0, 1), 2);
         Check.due("its total", x.room(1), 0);
         for (int i = 0; i < 26; i++) Check.due("amount " + i, x.amount(i, 0), 0);
+    }
+
+    /** What was found out of one curve is not told of the next one, be it wider or narrower, by P or another. */
+    @Sentence(promise = 4, says = "THE ROW becomes f; it is empty then; REGISTERS NOUGHT, amounts 0: the GENUS.")
+    static void p04NothingOfTheCurveAhead() {
+        int many = Edges.CURVES.length;
+        for (int i = 0; i < many; i++) {
+            for (int step : new int[] {1, many - 1, 5}) {
+                int[] told = Edges.CURVES[(i + step) % many];
+                CurveRooms x = Edges.made(Edges.CURVES[i]);
+                Edges.answers(x);
+                if (told[0] != Edges.CURVES[i][0]) x.prime(told[0]);
+                Check.setCurve(x, Edges.rowOf(told));
+                long[] got = Edges.answers(x), want = Edges.answers(Edges.made(told));
+                for (int k = 0; k < want.length; k++) Check.due("answer " + k + " of curve " + (i + step) % many, got[k], want[k]);
+            }
+        }
     }
 
     @Sentence(promise = 4, says = "GENUS g: 1, 2.")

@@ -72,6 +72,43 @@ final class Edges {
         Check.due(call + " changes nothing", x.digest(), before);
     }
 
+    /** What some two hundred calls of all kinds answer on an object with a curve. */
+    static long[] answers(CurveRooms x) {
+        long[] told = new long[400];
+        int n = 0;
+        for (int k = 0; k < 7; k++) {
+            told[n++] = x.count(k);
+            told[n++] = x.places(k);
+            told[n++] = x.share(k);
+            told[n++] = x.group(k);
+            told[n++] = x.point(4 * k, 0);
+            told[n++] = x.point(4 * k, 2);
+            told[n++] = x.gaps(2 * k);
+            told[n++] = x.code(4 * k, 1);
+            told[n++] = x.read(4 * k, k, k);
+            told[n++] = x.turns(k - 1);
+            told[n++] = x.turned(k, k);
+            for (int what = 0; what < 3; what++) told[n++] = x.of(k, what % 2, what);
+        }
+        told[n++] = x.points();
+        told[n++] = x.countAll();
+        told[n++] = x.classes();
+        for (int i = 0; i < 6; i++) {
+            told[n++] = x.pick(i, 7 * i + 1);
+            told[n++] = x.at(5 - i, i);
+            told[n++] = x.sum(i, i, 3);
+            told[n++] = x.which(i);
+            told[n++] = x.order(i);
+            told[n++] = x.log(i, 0);
+            told[n++] = x.least(i);
+            for (int what = -1; what < 4; what++) told[n++] = x.near(i, what);
+            told[n++] = x.amount(i, 4 - i);
+            for (int what = 0; what < 3; what++) told[n++] = x.room(what);
+        }
+        told[n++] = x.digest();
+        return told;
+    }
+
     /** An object in which everything that the digest tells is other than at first. */
     static CurveRooms full() {
         CurveRooms x = Check.onCurve(7, 3, 1, 0, 0, 0, 1);

@@ -72,10 +72,10 @@ public final class RoomPromises {
 
     /** The width less that of what is turned about is the total and 1 less the genus. */
     private static void turnedAbout(int p, int... row) {
-        CurveRooms x = Check.onCurve(p, row);
         int genus = row.length / 2 - 1;
-        int points = x.points();
+        int points = Check.onCurve(p, row).points();
         for (int round = 0; round < 60; round++) {
+            CurveRooms x = Check.onCurve(p, row);
             for (int i = 1; i < points; i++) x.amount(i, (round * 31 + i * i * 7 + i * round) % 9 - 4);
             x.amount(0, 0);
             int rest = -x.room(1);
@@ -91,11 +91,12 @@ public final class RoomPromises {
 
     /** By genus 1 a line through two points has one more: only with that one is there a function of total 0. */
     private static void lines(int p, int... row) {
-        CurveRooms x = Check.onCurve(p, row);
-        for (int i = 1; i < x.points(); i++) {
-            for (int j = i + 1; j < x.points(); j++) {
+        int points = Check.onCurve(p, row).points();
+        for (int i = 1; i < points; i++) {
+            for (int j = i + 1; j < points; j++) {
+                CurveRooms x = Check.onCurve(p, row);
                 int third = x.point(thirdOnLine(x, i, j, p, row[2]), 2);
-                for (int k = 1; k < x.points(); k++) {
+                for (int k = 1; k < points; k++) {
                     if (k == i || k == j) continue;
                     x.amount(i, 1);
                     x.amount(j, 1);
@@ -107,8 +108,6 @@ public final class RoomPromises {
                 }
                 x.amount(0, -2);
                 Check.due("width by " + i + " " + j, x.room(0), third == 0 ? 1 : 0);
-                x.amount(i, 0);
-                x.amount(j, 0);
             }
         }
     }

@@ -46,6 +46,7 @@ public final class TurnPromises {
                     boolean fits = true;
                     for (int k = 0; k < f.length; k++) fits &= moved(f, a, b, k, p) == c * c * f[k] % p;
                     if (!fits) continue;
+                    x = Check.onCurve(p, f);
                     Check.due("turns(" + i + ")", x.turns(i), 10000 * a + 100 * b + c);
                     for (int point = 1; point < x.points(); point++) {
                         int to = x.turned(i, point);
