@@ -862,6 +862,19 @@ public final class ClassEdges {
         Check.due("h is 1: none at all", Check.onCurve(3, 2, 2, 0, 1).group(0), NONE);
     }
 
+    @Sentence(promise = 20, says = "whose product is h")
+    static void p20OfOneClassAlone() {
+        CurveRooms x = Check.onCurve(3, 2, 2, 0, 1);
+        for (int round = 0; round < 3; round++) {
+            Check.due("which", x.which(round), 0);
+            Check.due("pick", x.pick(round, 0), 1);
+            Check.due("no other class", x.pick(round, 1), BAD);
+            Check.due("order", x.order(round), 1);
+            Check.due("no number", x.group(0), NONE);
+            Check.due("classes", x.classes(), 1);
+        }
+    }
+
     @Sentence(promise = 20, says = "BAD: i below 0; NO.")
     static void p20Wrong() {
         CurveRooms x = filled();
